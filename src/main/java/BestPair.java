@@ -338,7 +338,8 @@ public final class BestPair {
         int most = 0;
         for (int size = LEAST_SIZE; size <= MOST_SIZE; size++) {
             door.replace(person, size, worth);
-            int often = leaving.countOrders(pairs, guests, person, person);
+            // Most sizes are never taken: there is no need to try all ORDERS for these.
+            int often = door.isEverTaken(person, person) ? leaving.countOrders(pairs, guests, person, person) : 0;
             if (often > most) {
                 most = often;
                 best = size;
@@ -1198,6 +1199,16 @@ public final class BestPair {
             }
             picks[person * SETS + pairs] = best;
             return best;
+        }
+
+        /** Whether there is a number of PAIRS at the door by which a PERSON might take this one. */
+        boolean isEverTaken(int person, int pair) {
+            for (int standing = 1; standing < COUNTS; standing++) {
+                if (desire(person, pair, standing) > 0) {
+                    return true;
+                }
+            }
+            return false;
         }
 
         /** The more, the rather it is taken; 0: never. Without a RULE even a PAIR of WORTH 0 is taken. */
