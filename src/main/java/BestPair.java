@@ -1738,7 +1738,7 @@ public final class BestPair {
             Arrays.fill(steps, NONE);
             queued = 0;
             reach(stateNow(), 0);
-            for (int k = 0; k < queued; k++) {
+            for (int k = 0; k < STATES && k < queued; k++) {
                 int state = queue[k];
                 if (pairIn(state, person) == pair) {
                     return steps[state];

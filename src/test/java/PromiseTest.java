@@ -141,6 +141,12 @@ public final class PromiseTest {
         first("y:0-9999*9999-9999*9999+9999*101+p", 0, 12, 2);
         first("y:100/w*10-10", 1, 102, 2);
         first("y:20/3*3-18+p", 0, 12, 2);
+        first("y:" + "p+".repeat(78) + "10", 0, 12, 2);
+        first("y:w=1?1;".repeat(19) + "y:f", 0, 12, 2);
+        first("y:!!!!p=[1+[1]]?1", 0, 12, 2);
+        first("y:!!!!!p=1+1?1", 1, 102, 1);
+        first("y:!(!(!(p=2|p=0&w>0)))?1", 2, 210, 1);
+        first("y:p=0|p=0|p=0&p=0&p+[0*[0+[0*[0+[0]]]]]=[[[0]]]?[[[[[[7]]]]]]", 1, 102, 0);
     }
 
     private static void evenings() {
@@ -420,6 +426,9 @@ public final class PromiseTest {
         Check.due("no guest", x.cobbler(0, 3, 2, 1, 0), -1);
         Check.due("no such", x.cobbler(0, 7, 3, 1, 0), -1);
         Check.due("no such", x.cobbler(4, 7, 2, 1, 0), -1);
+        Check.due("the greatest size", Check.people("ps50;p").cobbler(0, 3, 0, 9, 0), 50);
+        Check.due("the least size", Check.people("ps20;p").cobbler(0, 3, 0, 9, 0), 20);
+        Check.due("SIZE and GIVE is the last one", Check.people("ps41g9f50w60;pg1w70f41o3").cobbler(0, 1, 0, 0, 1), 1);
         x.rule(2, -1);
         x.evening(0, 7, 12);
         // 0 has 1 now, and comes in a new one: 1 stays at home, so nothing better is there.
@@ -475,6 +484,7 @@ public final class PromiseTest {
         y.evening(1, 7, 12);
         y.sight(0, 0, 50);
         Check.due("no such size", y.agree(), 0);
+        Check.due("size 20", y.sight(0, 0, 20), 2);
         BestPair z = six();
         z.evening(0, 63, 12345);
         z.sight(0, 13, 40);

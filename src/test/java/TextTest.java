@@ -78,6 +78,14 @@ public final class TextTest {
         y.feed(full, full, full, full, 0x70700000);
         Check.due("158 and 3 do not fit", y.feed(0x70700070, 0, 0, 0, 0), -1);
         Check.due("158 as before", y.count(2), 158);
+        for (int place = 0; place < 5; place++) {
+            int[] five = new int[5];
+            five[place] = 0x70007070;
+            Check.due("nor in word " + place, y.feed(five[0], five[1], five[2], five[3], five[4]), -1);
+            five[place] = 0x00700070;
+            Check.due("two do, in word " + place, y.feed(five[0], five[1], five[2], five[3], five[4]), 160);
+            y.end(158);
+        }
     }
 
     private static void people(String text, int fault) {
@@ -198,6 +206,12 @@ public final class TextTest {
         rule("y:!!!!!w=[1]?[[[[[[1]]]]]]", -1);
         rule("y:!!!!!!w=1&!!!!!!w=1|[[[[[[1]]]]]]=1?1", -1);
         rule("y:!!!!!!w=1?[[[[[[[1]]]]]]]", 18);
+        rule("y:" + "w+".repeat(78) + "10", -1);
+        rule("y:" + "w+".repeat(79), 160);
+        rule("y:1;".repeat(39) + " y:1", -1);
+        rule("y:1;".repeat(40), 160);
+        rule("y:!w=1" + "&w=1".repeat(37) + "?100  ", -1);
+        rule(" ".repeat(160), 160);
     }
 
     private static void takesTexts() {
@@ -216,6 +230,7 @@ public final class TextTest {
         for (int k = 0; k < 4; k++) {
             Check.due("rule " + k, Check.rule(x, "y:" + k), k);
             Check.due("rules", x.count(1), k + 1);
+            Check.due("the TAPE is empty", x.count(2), 0);
         }
         Check.tape(x, "y:1");
         Check.due("a fifth RULE is no FAULT", x.fault(1), -1);
