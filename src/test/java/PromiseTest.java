@@ -141,6 +141,10 @@ public final class PromiseTest {
         first("y:0-9999*9999-9999*9999+9999*101+p", 0, 12, 2);
         first("y:100/w*10-10", 1, 102, 2);
         first("y:20/3*3-18+p", 0, 12, 2);
+        first("y:9999*9999=1000*1000?p", 0, 12, 2);
+        first("y:[0-9999]*9999=0-1000*1000?p", 0, 12, 2);
+        first("y:1000*1000+1=1000*1000?p", 0, 12, 2);
+        first("y:1000*1000-1=999*1000+999?p", 0, 12, 2);
         first("y:" + "p+".repeat(78) + "10", 0, 12, 2);
         first("y:w=1?1;".repeat(19) + "y:f", 0, 12, 2);
         first("y:!!!!p=[1+[1]]?1", 0, 12, 2);
@@ -426,6 +430,9 @@ public final class PromiseTest {
         Check.due("no guest", x.cobbler(0, 3, 2, 1, 0), -1);
         Check.due("no such", x.cobbler(0, 7, 3, 1, 0), -1);
         Check.due("no such", x.cobbler(4, 7, 2, 1, 0), -1);
+        x.rule(2, Check.rule(x, "y:n=1?1"));
+        Check.due("only if it stands there alone", x.cobbler(0, 4, 2, 7, 1), 1);
+        Check.due("only if it stands there alone", x.cobbler(0, 6, 2, 7, 1), 1);
         Check.due("the greatest size", Check.people("ps50;p").cobbler(0, 3, 0, 9, 0), 50);
         Check.due("the least size", Check.people("ps20;p").cobbler(0, 3, 0, 9, 0), 20);
         Check.due("SIZE and GIVE is the last one", Check.people("ps41g9f50w60;pg1w70f41o3").cobbler(0, 1, 0, 0, 1), 1);
