@@ -98,6 +98,12 @@ public final class EdgeImageTest {
         Edge.due("BARE by their RULES", x.host(0, 7, 0, 1), 3);
         BestPair size = Check.people("ps40g1w1f41;ps41g0f39;ps38g0f42w99");
         Edge.due("only what FITS: PAIR 0 once", size.dream(0, 7, NONE), 1);
+        Edge.due("BARE, and the others in 50", Check.people("ps30w49;p;p").dream(0, 7, NONE), 100);
+        BestPair again = Edge.three();
+        int[] due = {50, 70, 120, 20, 70, 90, 140};
+        for (int guests = 7; guests > 0; guests--) {
+            Edge.due("asked again, guests " + guests, again.dream(0, guests, NONE), due[guests - 1]);
+        }
 
         Edge.of("DREAM: the WORTH (person NONE), the PAIR of one (NONE: BARE). HIDDEN: no such ones, it is no guest.", 27);
         int[][] wrong = {{-1, 3, -1}, {4, 3, -1}, {0, 0, -1}, {0, 64, -1}, {0, -1, -1}, {0, 3, -2}, {0, 3, 6}, {0, 3, 32},
@@ -181,6 +187,25 @@ public final class EdgeImageTest {
         BestPair y = Check.people("ps30;p");
         y.evening(0, 3, 1);
         Edge.due("from as it is: it was its own at first", y.bring(0, 0), NONE);
+        BestPair again = Edge.three();
+        int[][] due = {{0, 1, NONE}, {NONE, 0, 1}, {NONE, NONE, 0}};
+        for (int k = 0; k < 27; k++) {
+            int person = k * 7 % 9 / 3;
+            int pair = k * 7 % 3;
+            Edge.due("asked again: bring(" + person + ", " + pair + ")", again.bring(person, pair), due[person][pair]);
+        }
+        again.evening(0, 7, 12);
+        Edge.due("behind an EVENING: PAIR 0 from the HOUSE", again.bring(0, 0), 1);
+        Edge.due("behind an EVENING: it has it", again.bring(1, 2), 0);
+        Edge.due("behind an EVENING: its own again", again.bring(2, 2), 1);
+        // 1 takes PAIR 0, then nothing more; 0 takes what stands alone.
+        BestPair alone = Check.people("pw60;pw50");
+        alone.rule(0, Check.rule(alone, "y:0"));
+        alone.evening(0, 3, 10);
+        alone.rule(1, 0);
+        alone.rule(0, Check.rule(alone, "y:n=1?1"));
+        Edge.due("any guests: 0 alone", alone.bring(0, 1), 1);
+        Edge.due("never alone with PAIR 0", alone.bring(0, 0), NONE);
     }
 
     private static void steady() {
@@ -200,6 +225,9 @@ public final class EdgeImageTest {
             BestPair y = Check.people("ps30w51;p");
             y.evening(house, 1, 0);
             Edge.due("a better one in HOUSE " + house, y.steady(), house == 0 ? 0 : 1);
+            BestPair z = Check.people("p;ps30w51");
+            z.evening(house, 2, 1);
+            Edge.due("one for the first in HOUSE " + house, z.steady(), house == 0 ? 0 : 1);
         }
 
         Edge.of("STEADY (1, 0). NONE: no PEOPLE, more than 4.", 29);

@@ -93,7 +93,10 @@ public final class EdgeOrderTest {
         Edge.due("of six the last", Check.people("pw9;pw8;pw7;pw6;pw5;pw4").worst(0, 63, 0), 5);
         BestPair byRule = Check.people("pw9f41;pg0w8");
         byRule.rule(0, Check.rule(byRule, "y:100-w"));
-        Edge.due("8 first, 9 later", byRule.worst(0, 3, 0), 0);
+        for (int k = 0; k < 3; k++) {
+            Edge.due("1: 8 first, BARE later", byRule.worst(0, 3, 1), 1);
+            Edge.due("0: 8 first, 9 later", byRule.worst(0, 3, 0), 0);
+        }
         BestPair second = Check.people("pw9;pw8;pw7");
         second.rule(0, Check.rule(second, "y:n=2?1;y:w"));
         Edge.due("9 9, 8 8, 7 7", second.worst(0, 7, 0), 2);
@@ -166,8 +169,8 @@ public final class EdgeOrderTest {
     }
 
     private static void hide() {
-        Edge.of("without which alone (hidden, it stays in the HOUSE) a guest goes in a told PAIR (NONE: BARE) "
-                + "by an ORDER.", 15);
+        Edge.of("HIDE: PAIRS at the door (bits) without which alone (hidden, it stays in the HOUSE) a guest goes in a told "
+                + "PAIR (NONE: BARE) by an ORDER.", 15);
         BestPair x = Edge.three();
         Edge.due("0 by 012 in 0: without 1", x.hide(0, 7, 12, 0, 0), 2);
         Edge.due("1 by 012 in 1: never", x.hide(0, 7, 12, 1, 1), 0);
@@ -280,8 +283,11 @@ public final class EdgeOrderTest {
         Edge.due("0 and 99", Check.people("ps30w0o99;p").quiet(1, 0), 0);
         Edge.due("99 and 0", Check.people("ps30w99o0;p").quiet(1, 0), 1);
 
-        Edge.of("it has WORTH of what it goes in, and of what stayed at home (the old one by o, its own by its WORTH now)",
-                17);
+        Edge.of("they go by numbers; it has WORTH of what it goes in, and of what stayed at home (the old one by o, its "
+                + "own by its WORTH now).", 17);
+        // The lower one takes the other's 50 and left 50 at home; the higher one would not so.
+        Edge.due("0 by its old one has 100: not quiet without it", Check.people("pw50o10;pw50o10").quiet(3, 0), 2);
+        Edge.due("with a third one who wears none of these", Check.people("ps30w0o0;pw50o10;pw50o10").quiet(6, 0), 4);
         BestPair x = Check.people("ps30w12o10;pw0m2");
         Edge.due("12 stays rather than 10", x.quiet(1, NONE), 1);
         x.evening(0, 3, 1);
@@ -291,7 +297,8 @@ public final class EdgeOrderTest {
         Edge.due("8 now, 10 stays", x.quiet(1, 0), 0);
         Edge.due("8 now, one only", x.quiet(1, NONE), 1);
 
-        Edge.of("in COME only the guests' own PAIRS, or old ones under their numbers, stand at the door.)", 17);
+        Edge.of("(They take PAIRS as in 2; in COME only the guests' own PAIRS, or old ones under their numbers, stand at "
+                + "the door.)", 16, 17);
         BestPair y = Edge.three();
         y.evening(0, 7, 12);
         Edge.due("PAIR 0 stands in HOUSE 0, 1 is with 0: alone each has its own", y.quiet(2, NONE), 2);

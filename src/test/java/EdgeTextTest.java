@@ -151,6 +151,7 @@ public final class EdgeTextTest {
         for (int rule = 0; rule < 4; rule++) {
             Edge.due("RULE " + rule, Check.rule(x, "y:" + rule), rule);
             Edge.due("how many", x.count(1), rule + 1);
+            Edge.due("the TAPE is empty", x.count(2), 0);
         }
         Edge.due("a fifth", Check.rule(x, "y:4"), NONE);
         Edge.due("four", x.count(1), 4);
@@ -378,6 +379,8 @@ public final class EdgeTextTest {
         rule("y:w=!1?1", 4);
         rule("y:w=(1)?1", 4);
 
+        truths();
+
         Edge.of("(A CLAUSE that goes on with ! or ( behind its : has a CONDITION.)", 4, 5);
         rule("y:!w=1", 6);
         rule("y:!w=1?1", NONE);
@@ -391,6 +394,27 @@ public final class EdgeTextTest {
         rule("y:1;y:(1)", 8);
     }
 
+    private static void truths() {
+        Edge.of("CONDITION: TRUTHS with | between; TRUTH: UNITS with & between", 9, 10);
+        holds("1=1|1=1");
+        holds("1=1|1=2");
+        holds("1=2|1=1");
+        holds("1=2|1=2|1=1");
+        holds("1=1&1=1&1=1");
+        holds("1=1|1=1&1=2");
+        holds("1=2&1=1|1=1");
+        holds("!(1=2|1=2)");
+        holds("!(1=1&1=2)");
+        holds("!(1=2&1=1)");
+        holds("!(1=2&1=2)");
+        holds("!((1=1|1=1)&1=2)");
+        holds("!1=2&1=1");
+        holds("!!1=1");
+        holds("1<2&2>1");
+        holds("!1<1&!1>1");
+        holds("!2<1&!1>2&!1=2");
+    }
+
     private static void depths() {
         Edge.of("At most six of ( [ ! within one another.", 4, 5);
         for (int many = 5; many <= 7; many++) {
@@ -398,6 +422,19 @@ public final class EdgeTextTest {
             rule("y:" + "[".repeat(many) + "1" + "]".repeat(many), fault);
             rule("y:" + "(".repeat(many) + "w=1" + ")".repeat(many) + "?1", fault);
             rule("y:" + "!".repeat(many) + "w=1?1", fault);
+        }
+        for (int many = 5; many <= 7; many++) {
+            String open = "[".repeat(many) + "1" + "]".repeat(many);
+            String not = "!".repeat(many) + "w=1";
+            rule("y:w=" + open + "?1", many > 6 ? 10 : NONE);
+            rule("y:" + open + "=1?1", many > 6 ? 8 : NONE);
+            rule("y:w=1?" + open, many > 6 ? 12 : NONE);
+            rule("y:!w=1?" + open, many > 6 ? 13 : NONE);
+            rule("y:w=1&" + not + "?1", many > 6 ? 12 : NONE);
+            rule("y:w=1|" + not + "?1", many > 6 ? 12 : NONE);
+            rule("y:(w=1)|" + not + "?1", many > 6 ? 14 : NONE);
+            rule("y:1+2*" + open, many > 6 ? 12 : NONE);
+            rule("y:1;y:" + open, many > 6 ? 12 : NONE);
         }
         rule("y:!(!(![1]=1))?1", NONE);
         rule("y:!(!(![[1]]=1))?1", 8);

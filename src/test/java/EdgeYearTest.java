@@ -183,6 +183,16 @@ public final class EdgeYearTest {
         Edge.due("one state: cut once", one.likely(20, 0, 0), 999999996);
         Edge.due("one state of four", Check.people("p;p;p;p").likely(20, 0, 0), 999999984);
         Edge.due("nobody BARE", one.likely(20, 0, NONE), 0);
+        BestPair again = Edge.three();
+        Edge.due("three states", again.likely(2, 2, 2), 833333325);
+        for (int person = 0; person < 3; person++) {
+            again.rule(person, Check.rule(again, "y:o"));
+        }
+        Edge.due("asked again: each its own, one state", again.likely(2, 2, 2), 999999996);
+        for (int person = 0; person < 3; person++) {
+            again.rule(person, NONE);
+        }
+        Edge.due("asked again: three states", again.likely(2, 2, 2), 833333325);
 
         Edge.of("LONG. NONE: no such ones, more than 4 PEOPLE.", 19);
         int[][] wrong = {{-1, 0, 0}, {21, 0, 0}, {1, -1, 0}, {1, 6, 0}, {1, 4, 0}, {1, 0, -2}, {1, 0, 6}, {0, 0, -2},
@@ -237,6 +247,9 @@ public final class EdgeYearTest {
         BestPair never = Check.people("p;p");
         never.rule(0, Check.rule(never, "y:0"));
         Edge.due("never: how often", never.cobbler(0, 3, 0, 99, 1), 0);
+        never.rule(0, Check.rule(never, "y:n=1?1"));
+        Edge.due("only of one at the door", never.cobbler(0, 1, 0, 99, 1), 1);
+        Edge.due("never of two, first; last it is taken", never.cobbler(0, 3, 0, 99, 1), 1);
         Edge.due("never: the least size", never.cobbler(0, 3, 0, 99, 0), 20);
         BestPair large = Check.people("ps40g9;ps40g1w0f40");
         Edge.due("a size that the other one cannot wear", large.cobbler(0, 3, 0, 50, 0), 42);
@@ -329,11 +342,31 @@ public final class EdgeYearTest {
 
     private static void oddRefused() {
         Edge.of("ODD. NONE: no such ones.", 21);
+        int most = 10;
+        BestPair x = new BestPair();
+        for (int n = 2; n <= 5; n++) {
+            most *= 10;
+            for (int row = -most; row < 2 * most; row++) {
+                // An object is used for at most 512 calls.
+                x = row % 500 == 0 ? new BestPair() : x;
+                Edge.due("odd(" + n + ", " + row + ", 2)", x.odd(n, row, 2) >= 0, isMixed(n, row));
+            }
+        }
         int[][] wrong = {{1, 0, 2}, {6, 12345, 2}, {2, 11, 2}, {2, 10, 1}, {2, 10, 3}, {5, 12340, 6}};
         for (int[] w : wrong) {
             Edge.everywhere("odd(" + w[0] + ", " + w[1] + ", " + w[2] + ")", t -> t.odd(w[0], w[1], w[2]), NONE);
         }
         Edge.still(BestPair::new, "no PEOPLE are needed", t -> t.odd(2, 10, 2), 1);
+    }
+
+    private static boolean isMixed(int n, int row) {
+        int digits = 0;
+        int rest = Math.max(0, row);
+        for (int k = 0; k < n; k++) {
+            digits |= 1 << rest % 10;
+            rest /= 10;
+        }
+        return row >= 0 && rest == 0 && digits == (1 << n) - 1;
     }
 
     /** So many SIGHTS of one EVENING. */
@@ -417,6 +450,16 @@ public final class EdgeYearTest {
         x.evening(0, 4, 2);
         x.sight(2, 2, 40);
         Edge.due("none was at both", x.agree(), 0);
+        BestPair later = Check.people("pw50;pw60");
+        later.evening(0, 3, 1);
+        later.evening(0, 3, 10);
+        later.evening(0, 3, 1);
+        later.sight(1, 1, 40);
+        Edge.due("behind the second PAIR 1 was with 1", later.agree(), 2);
+        later.sight(0, 0, 40);
+        Edge.due("behind the first it was with 0", later.agree(), 2);
+        later.sight(2, 1, 40);
+        Edge.due("behind the third it was with 0", later.agree(), 0);
         BestPair y = Check.people("ps30;ps30f41;p");
         y.evening(3, 3, 1);
         y.sight(0, 13, 41);
@@ -447,6 +490,13 @@ public final class EdgeYearTest {
         Edge.due("PAIR 1 behind the last", x.been(1, 4), 2);
         Edge.due("PAIR 2 behind the last", x.been(2, 4), 1);
         Edge.due("PAIR 0 stays: one place", x.been(0, NONE), 1);
+        BestPair first = Check.people("pw50;pw60");
+        first.evening(0, 3, 1);
+        Edge.due("one EVENING: one place", first.been(1, NONE), 1);
+        first.evening(0, 3, 10);
+        Edge.due("the first EVENING's, too", first.been(1, NONE), 2);
+        first.evening(0, 3, 1);
+        Edge.due("a place twice is one", first.been(1, NONE), 2);
 
         Edge.of("BEEN: how many (i NONE), where behind the i-th EVENING. NONE: no such ones.", 24);
         Edge.still(Edge::three, "i 0 of none", t -> t.been(0, 0), NONE);
