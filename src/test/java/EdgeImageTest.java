@@ -198,6 +198,13 @@ public final class EdgeImageTest {
         Edge.due("behind an EVENING: PAIR 0 from the HOUSE", again.bring(0, 0), 1);
         Edge.due("behind an EVENING: it has it", again.bring(1, 2), 0);
         Edge.due("behind an EVENING: its own again", again.bring(2, 2), 1);
+        // 0 takes 2's PAIR home, then 2 comes without 0 to where PAIR 1 stands.
+        Edge.due("two, once without 0", Check.people("pw7;ps41;p").bring(2, 1), 2);
+        // 1 wears none; 2 would rather have 50 than its own 6, and never leaves it again.
+        BestPair left = Check.people("p;ps42;pw6");
+        bringAll(left, new int[] {0, 1, 1, NONE, 0, NONE, 1, 1, 0});
+        left.evening(0, 7, 102);
+        bringAll(left, new int[] {0, 1, NONE, NONE, NONE, NONE, 1, 0, NONE});
         // 1 takes PAIR 0, then nothing more; 0 takes what stands alone.
         BestPair alone = Check.people("pw60;pw50");
         alone.rule(0, Check.rule(alone, "y:0"));
@@ -206,6 +213,12 @@ public final class EdgeImageTest {
         alone.rule(0, Check.rule(alone, "y:n=1?1"));
         Edge.due("any guests: 0 alone", alone.bring(0, 1), 1);
         Edge.due("never alone with PAIR 0", alone.bring(0, 0), NONE);
+    }
+
+    private static void bringAll(BestPair x, int[] due) {
+        for (int k = 0; k < 9; k++) {
+            Edge.due("bring(" + k / 3 + ", " + k % 3 + ")", x.bring(k / 3, k % 3), due[k]);
+        }
     }
 
     private static void steady() {

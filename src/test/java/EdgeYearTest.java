@@ -183,6 +183,12 @@ public final class EdgeYearTest {
         Edge.due("one state: cut once", one.likely(20, 0, 0), 999999996);
         Edge.due("one state of four", Check.people("p;p;p;p").likely(20, 0, 0), 999999984);
         Edge.due("nobody BARE", one.likely(20, 0, NONE), 0);
+        for (int k = 0; k < 16; k++) {
+            // 24 ORDERS lead to 24 states: a PERSON has each PAIR by six of them.
+            BestPair four = Check.people("pw9;pw8;pw7;pw6");
+            Edge.due("n 1, 24 states", four.likely(1, k / 4, k % 4), 6 * (1000000000 / 24));
+            Edge.due("n 2, 24 states", four.likely(2, k / 4, k % 4), 6 * 24 * (1000000000 / 24 / 24));
+        }
         BestPair again = Edge.three();
         Edge.due("three states", again.likely(2, 2, 2), 833333325);
         for (int person = 0; person < 3; person++) {
@@ -220,6 +226,8 @@ public final class EdgeYearTest {
         Edge.of("how likely one has a PAIR (NONE: BARE) behind them", 19);
         BestPair bare = Check.people("ps30;ps30");
         Edge.due("BARE for sure", bare.likely(1, 0, NONE), 1000000000);
+        Edge.due("asked again", bare.likely(1, 0, NONE), 1000000000);
+        Edge.due("asked again", bare.likely(20, 1, NONE), 1000000000);
         Edge.due("not yet", bare.likely(0, 0, NONE), 0);
     }
 
