@@ -66,11 +66,16 @@ public final class LanguageTest {
         return text.append(")").toString();
     }
 
-    private static void members() {
+    private static Set<String> faceNames() {
         Set<String> names = new HashSet<>();
         for (String method : FACE) {
             names.add(method.replaceAll("^\\w+ |\\(.*", ""));
         }
+        return names;
+    }
+
+    private static void members() {
+        Set<String> names = faceNames();
         for (Method m : BestPair.class.getDeclaredMethods()) {
             boolean isPrivate = Modifier.isPrivate(m.getModifiers());
             Check.due(m + " is of the face or private", isPrivate || Modifier.isPublic(m.getModifiers()), true);
@@ -104,6 +109,7 @@ public final class LanguageTest {
         Check.due(c + " is static", Modifier.isStatic(how), true);
         Check.due(c + " is private or the package's", Modifier.isPublic(how) || Modifier.isProtected(how), false);
         for (Method m : c.getDeclaredMethods()) {
+            Check.due(m + " has a name of its own", faceNames().contains(m.getName()), false);
             parameters(m);
         }
         for (Constructor<?> m : c.getDeclaredConstructors()) {
